@@ -1105,9 +1105,10 @@ public final class OneTurned {
         }
 
         int signAt(int lie) {
+            int shown = lie & inside;
             int weight = 0;
             for (int c = 0; c < MOST_CARDS; c++) {
-                weight += hasBit(lie & inside, c) ? c + 1 : 0;
+                weight += (shown >> c & 1) * (c + 1);
             }
             int divisor = more + 2;
             return divisor > 0 ? weight % divisor : 0;
@@ -1288,9 +1289,8 @@ public final class OneTurned {
     // ---- texts
 
     /**
-     * A text that was read: for each part its numbers, names and signs of
-     * reckoning, each behind what it is reckoned of. An item from 0 on is a
-     * number; one below stands for the token that is -1 less the item.
+     * A text that was read: for each part its tokens (NEGATIVE for a - ahead
+     * of a ONE), each behind what it is reckoned of, and no brackets.
      */
     private static final class Law {
         private final int[] items;
@@ -1315,22 +1315,22 @@ public final class OneTurned {
 
         /** Does one item's work on the stack: how high it is then. */
         private static int reckon(int item, int[] names, int[] stack, int height) {
-            int token = -1 - item;
-            int name = token - Tape.FIRST_NAME;
-            if (item >= 0) {
-                return push(item, stack, height);
+            int name = item - Tape.FIRST_NAME;
+            if (item >= Tape.FIRST_NUMBER) {
+                return push(item - Tape.FIRST_NUMBER, stack, height);
             }
             if (name >= 0 && name < names.length) {
                 return push(names[name], stack, height);
             }
-            if (token == Tape.NOT || token == Tape.NEGATIVE) {
-                int of = height > 0 && height <= stack.length ? stack[height - 1] : 0;
-                return push(token == Tape.NOT ? asNumber(of == 0) : -of, stack, height - 1);
-            }
-            if (height < 2 || height > stack.length) {
+            if (height < 1 || height > stack.length) {
                 return height;
             }
-            return push(joined(token, stack[height - 2], stack[height - 1]), stack, height - 2);
+            int right = stack[height - 1];
+            if (item == Tape.NOT || item == Tape.NEGATIVE) {
+                return push(item == Tape.NOT ? asNumber(right == 0) : -right, stack, height - 1);
+            }
+            int left = height < 2 ? 0 : stack[height - 2];
+            return push(joined(item, left, right), stack, height - 2);
         }
 
         private static int push(int number, int[] stack, int height) {
@@ -1341,8 +1341,8 @@ public final class OneTurned {
             return height + 1;
         }
 
-        private static int joined(int token, int left, int right) {
-            switch (token) {
+        private static int joined(int item, int left, int right) {
+            switch (item) {
                 case Tape.OR:
                     return asNumber(left != 0 || right != 0);
                 case Tape.AND:
@@ -1366,30 +1366,32 @@ public final class OneTurned {
     }
 
     /**
-     * The tape, and how it is read as a text. Each read.. method takes what it
-     * is named for from the token that stands next, and puts items for it; it
-     * answers false at the first token that can't stand where it stands. open
-     * is how many of ( , not and - ahead are open there.
+     * The tape, and how it is read as a text: first scanned for tokens, up to
+     * the first that is none. Then each read.. method takes what it is named
+     * for from the token that stands next, and puts items for it; it answers
+     * false at the first token that can't stand where it stands, and leaves it.
+     * open is how many of ( , not and - ahead are open there.
      */
     private static final class Tape {
         static final int MOST_BYTES = 160;
         static final int NAMES = 6;
-        /** Tokens: marks are their own bytes, words their places in WORDS. */
-        static final int OR = 3, AND = 4, NOT = 5, FIRST_NAME = 6, NEGATIVE = 12;
+        /** Tokens: words are their places in WORDS, marks their bytes, numbers so much more than FIRST_NUMBER. */
+        static final int OR = 3, AND = 4, NOT = 5, FIRST_NAME = 6, NEGATIVE = 12, FIRST_NUMBER = 1000;
+        private static final int END = -1, WRONG = -2;
         private static final String WORDS = "turns swaps looks or and not card row column back many fails ";
-        private static final int END = -1, WRONG = -2, NUMBER = -3;
         private static final int MOST_DIGITS = 4, MOST_OPEN = 5;
         /** Levels of what is joined: each joins what the next ones read. */
         private static final int ORS = 0, ANDS = 1, SUMS = 2, TERMS = 3;
 
         int size = 0;
         private final int[] bytes = new int[MOST_BYTES];
+        /** Each token takes a byte at least; one more for the end. */
+        private final int[] tokens = new int[MOST_BYTES + 1];
+        private final int[] places = new int[MOST_BYTES + 1];
         private final int[] items = new int[MOST_BYTES];
+        private int scanned = 0;
+        private int next = 0;
         private int used = 0;
-        private int token = END;
-        private int tokenAt = 0;
-        private int tokenEnd = 0;
-        private int number = 0;
 
         void put(int b) {
             if (isWithin(size, 0, bytes.length - 1)) {
@@ -1402,16 +1404,16 @@ public final class OneTurned {
             size = 0;
         }
 
-        /** Where reading stopped: of use, if there was no text. */
+        /** The place of the token at which reading stopped. */
         int fault() {
-            return tokenAt;
+            return isWithin(next, 0, places.length - 1) ? places[next] : 0;
         }
 
         /** The text that stands here; null, if it has a fault. */
         Law read() {
+            scan();
+            next = 0;
             used = 0;
-            tokenEnd = 0;
-            nextToken();
             if (!readPart(TURNS)) {
                 return null;
             }
@@ -1420,10 +1422,16 @@ public final class OneTurned {
                 return null;
             }
             int swapsEnd = used;
-            if (!readPart(LOOKS) || token != END || used < 0) {
+            if (!readPart(LOOKS) || token() != END || used < 0) {
                 return null;
             }
             return new Law(Arrays.copyOf(items, used), turnsEnd, swapsEnd);
+        }
+
+        // -- reading tokens
+
+        private int token() {
+            return isWithin(next, 0, tokens.length - 1) ? tokens[next] : END;
         }
 
         private boolean readPart(int key) {
@@ -1431,10 +1439,10 @@ public final class OneTurned {
         }
 
         private boolean readToken(int wanted) {
-            if (token != wanted) {
+            if (token() != wanted) {
                 return false;
             }
-            nextToken();
+            next++;
             return true;
         }
 
@@ -1444,26 +1452,27 @@ public final class OneTurned {
                 return false;
             }
             for (int i = 0; i < MOST_BYTES && joinsAt(level); i++) {
-                int mark = token;
-                nextToken();
+                int sign = token();
+                next++;
                 if (!readOperand(level, open)) {
                     return false;
                 }
-                putToken(mark);
+                putItem(sign);
             }
             return true;
         }
 
         private boolean joinsAt(int level) {
+            int sign = token();
             switch (level) {
                 case ORS:
-                    return token == OR;
+                    return sign == OR;
                 case ANDS:
-                    return token == AND;
+                    return sign == AND;
                 case SUMS:
-                    return token == '+' || token == '-';
+                    return sign == '+' || sign == '-';
                 default:
-                    return token == '*';
+                    return sign == '*';
             }
         }
 
@@ -1472,7 +1481,7 @@ public final class OneTurned {
                 case ORS:
                     return readJoined(ANDS, open);
                 case ANDS:
-                    return token == NOT ? readNot(open) : readComparison(open);
+                    return token() == NOT ? readNot(open) : readComparison(open);
                 case SUMS:
                     return readJoined(TERMS, open);
                 default:
@@ -1484,11 +1493,11 @@ public final class OneTurned {
             if (open >= MOST_OPEN) {
                 return false;
             }
-            nextToken();
+            next++;
             if (!readOperand(ANDS, open + 1)) {
                 return false;
             }
-            putToken(NOT);
+            putItem(NOT);
             return true;
         }
 
@@ -1496,51 +1505,38 @@ public final class OneTurned {
             if (!readJoined(SUMS, open)) {
                 return false;
             }
-            int mark = token;
-            if (mark != '<' && mark != '=') {
+            int sign = token();
+            if (sign != '<' && sign != '=') {
                 return true;
             }
-            nextToken();
+            next++;
             if (!readJoined(SUMS, open)) {
                 return false;
             }
-            putToken(mark);
+            putItem(sign);
             return true;
         }
 
         private boolean readOne(int open) {
-            if (token == NUMBER) {
-                putItem(number);
-                nextToken();
+            int first = token();
+            if (first >= FIRST_NUMBER || isWithin(first, FIRST_NAME, FIRST_NAME + NAMES - 1)) {
+                putItem(first);
+                next++;
                 return true;
             }
-            if (isWithin(token, FIRST_NAME, FIRST_NAME + NAMES - 1)) {
-                putToken(token);
-                nextToken();
-                return true;
-            }
-            if (token != '-' && token != '(' || open >= MOST_OPEN) {
+            if (first != '-' && first != '(' || open >= MOST_OPEN) {
                 return false;
             }
-            return token == '-' ? readNegative(open + 1) : readBracket(open + 1);
+            next++;
+            return first == '-' ? readNegative(open + 1) : readJoined(ORS, open + 1) && readToken(')');
         }
 
         private boolean readNegative(int open) {
-            nextToken();
             if (!readOne(open)) {
                 return false;
             }
-            putToken(NEGATIVE);
+            putItem(NEGATIVE);
             return true;
-        }
-
-        private boolean readBracket(int open) {
-            nextToken();
-            return readJoined(ORS, open) && readToken(')');
-        }
-
-        private void putToken(int which) {
-            putItem(-1 - which);
         }
 
         private void putItem(int item) {
@@ -1550,65 +1546,81 @@ public final class OneTurned {
             }
         }
 
-        private void nextToken() {
-            int at = tokenEnd;
-            while (at < size && (byteAt(at) == ' ' || byteAt(at) == '\n')) {
-                at++;
-            }
-            tokenAt = at;
-            tokenEnd = at + 1;
-            int first = byteAt(at);
-            if (at >= size) {
-                tokenEnd = at;
-                token = END;
-            } else if (isLetter(first)) {
-                takeWord();
-            } else if (isDigit(first)) {
-                takeNumber();
-            } else {
-                token = isMark(first) ? first : WRONG;
+        // -- scanning bytes
+
+        private void scan() {
+            scanned = 0;
+            boolean goesOn = true;
+            for (int i = 0; goesOn && i < tokens.length && i < places.length; i++) {
+                skipBlanks();
+                places[i] = scanned;
+                tokens[i] = takeToken();
+                goesOn = tokens[i] != END && tokens[i] != WRONG;
             }
         }
 
-        private void takeWord() {
-            while (tokenEnd < size && isLetter(byteAt(tokenEnd))) {
-                tokenEnd++;
+        private void skipBlanks() {
+            while (scanned < size && (byteAt(scanned) == ' ' || byteAt(scanned) == '\n')) {
+                scanned++;
             }
-            token = WRONG;
-            int which = 0;
-            int from = 0;
+        }
+
+        private int takeToken() {
+            int from = scanned;
+            if (from >= size) {
+                return END;
+            }
+            int first = byteAt(from);
+            scanned++;
+            if (isLetter(first)) {
+                return takeWord(from);
+            }
+            if (isDigit(first)) {
+                return takeNumber(from);
+            }
+            return isMark(first) ? first : WRONG;
+        }
+
+        private int takeWord(int from) {
+            while (scanned < size && isLetter(byteAt(scanned))) {
+                scanned++;
+            }
+            int word = 0;
+            int start = 0;
             for (int i = 0; i < WORDS.length(); i++) {
                 if (WORDS.charAt(i) == ' ') {
-                    if (isTokenWord(from, i)) {
-                        token = which;
+                    if (i - start == scanned - from && isSpelt(from, start, i)) {
+                        return word;
                     }
-                    which++;
-                    from = i + 1;
+                    word++;
+                    start = i + 1;
                 }
             }
+            return WRONG;
         }
 
-        private boolean isTokenWord(int from, int to) {
-            if (to - from != tokenEnd - tokenAt) {
-                return false;
-            }
-            for (int i = Math.max(0, from); i < to && i < WORDS.length(); i++) {
-                if (WORDS.charAt(i) != byteAt(tokenAt + i - from)) {
+        /** Whether bytes from a place on are what stands in WORDS there. */
+        private boolean isSpelt(int from, int start, int end) {
+            for (int i = start; i >= 0 && i < end && i < WORDS.length(); i++) {
+                if (WORDS.charAt(i) != byteAt(from + i - start)) {
                     return false;
                 }
             }
             return true;
         }
 
-        private void takeNumber() {
-            while (tokenEnd < size && isDigit(byteAt(tokenEnd))) {
-                tokenEnd++;
+        private int takeNumber(int from) {
+            while (scanned < size && isDigit(byteAt(scanned))) {
+                scanned++;
             }
-            number = 0;
-            for (int i = tokenAt; i < tokenEnd; i++) {
+            if (scanned - from > MOST_DIGITS) {
+                return WRONG;
+            }
+            int number = 0;
+            for (int i = from; i < scanned; i++) {
                 number = 10 * number + byteAt(i) - '0';
             }
-            token = tokenEnd - tokenAt > MOST_DIGITS ? WRONG : NUMBER;
+            return FIRST_NUMBER + number;
         }
 
         private int byteAt(int at) {
@@ -1616,11 +1628,11 @@ public final class OneTurned {
         }
 
         private static boolean isLetter(int b) {
-            return isWithin(b, 'a', 'z');
+            return b >= 'a' && b <= 'z';
         }
 
         private static boolean isDigit(int b) {
-            return isWithin(b, '0', '9');
+            return b >= '0' && b <= '9';
         }
 
         private static boolean isMark(int b) {

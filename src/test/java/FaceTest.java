@@ -31,7 +31,7 @@ public final class FaceTest {
         "\\bthrows?\\b", "\\btry\\b", "\\bcatch\\b", "\\bfinally\\b", "\\bsynchronized\\b", "\\bassert\\b", "->", "::",
         "\\bvar\\b", "\\bObject\\b", "\\bprotected\\b", "\\bnative\\b", "\\bvolatile\\b", "\\btransient\\b",
         "\\bpackage\\b", "\\bhashCode\\b", "Exact\\b", "@", "\\bstatic\\s*\\{", "\\bSystem\\.(?!arraycopy\\b)",
-        "\\bArrays\\.(?!copyOf\\b|copyOfRange\\b|fill\\b)", "\\bimport (?!java\\.util\\.Arrays;)", "\\?\\?",
+        "\\bArrays\\.(?!copyOf\\b|copyOfRange\\b|fill\\b)", "\\bimport (?!java\\.util\\.Arrays;)",
     };
 
     private static final int MOST_LINES = 60, MOST_PARAMETERS = 7, MOST_CLASSES = 12, MOST_FIELDS = 20;

@@ -300,6 +300,13 @@ public final class PromisesTest {
         due("force(2)", x.force(2), BAD);
         due("count(5)", x.count(5), 1);
 
+        for (int t = 2; t < 6; t++) {
+            force(x, "turns 10*" + t + ";swaps 2;looks 3;");
+            due("asks(0, 0), text " + t, x.asks(0, 0), 10 * t);
+        }
+        due("force(6)", x.force(6), BAD);
+        due("force(1)", x.force(1), 5);
+
         promise = 9;
         due("asks(0, 8)", x.asks(0, 8), 1);
         due("asks(1, 8)", x.asks(1, 8), 2);
