@@ -744,8 +744,12 @@ public final class OneTurned {
         return 1 << place;
     }
 
+    private static int bitsBelow(int place) {
+        return (1 << place) - 1;
+    }
+
     private static boolean hasBit(int set, int place) {
-        return (set >> place & 1) != 0;
+        return ((set >> place) & 1) != 0;
     }
 
     /** How many a set has; NONE stands for no set. */
@@ -763,7 +767,7 @@ public final class OneTurned {
     }
 
     private static int signIn(int signs, int h) {
-        return signs >> 4 * h & 15;
+        return (signs >> (4 * h)) & 15;
     }
 
     private static int asTwo(int lesser, int other) {
@@ -948,7 +952,7 @@ public final class OneTurned {
         int signs = 0;
         for (int h = 0; h < board.heapCount; h++) {
             int sign = teller == null ? NO_SIGN : teller.get(h);
-            signs |= (isWithin(sign, 0, NO_SIGN) ? sign : NO_SIGN) << 4 * h;
+            signs |= (isWithin(sign, 0, NO_SIGN) ? sign : NO_SIGN) << (4 * h);
         }
         return signs;
     }
@@ -1108,7 +1112,7 @@ public final class OneTurned {
             int shown = lie & inside;
             int weight = 0;
             for (int c = 0; c < MOST_CARDS; c++) {
-                weight += (shown >> c & 1) * (c + 1);
+                weight += ((shown >> c) & 1) * (c + 1);
             }
             int divisor = more + 2;
             return divisor > 0 ? weight % divisor : 0;
@@ -1162,7 +1166,7 @@ public final class OneTurned {
         }
 
         int allCards() {
-            return bit(cards) - 1;
+            return bitsBelow(cards);
         }
 
         boolean hasCard(int card) {
@@ -1188,14 +1192,14 @@ public final class OneTurned {
 
         /** How all lie, if the first n come behind all others. */
         int cutAt(int n) {
-            return backs >> n | (backs & bit(n) - 1) << cards - n;
+            return (backs >> n) | ((backs & bitsBelow(n)) << (cards - n));
         }
 
         /** How all lie, if the card at place a is put in at place b. */
         int movedTo(int a, int b) {
-            int card = backs >> a & 1;
-            int others = backs & bit(a) - 1 | backs >> a + 1 << a;
-            return others & bit(b) - 1 | card << b | others >> b << b + 1;
+            int card = (backs >> a) & 1;
+            int others = (backs & bitsBelow(a)) | ((backs >> (a + 1)) << a);
+            return (others & bitsBelow(b)) | (card << b) | ((others >> b) << (b + 1));
         }
 
         boolean hasRoom() {
@@ -1222,14 +1226,14 @@ public final class OneTurned {
         }
 
         int allHeaps() {
-            return bit(heapCount) - 1;
+            return bitsBelow(heapCount);
         }
 
         int signsAt(int lie) {
             int signs = 0;
             for (int h = 0; h < heapCount; h++) {
                 Heap heap = heapAt(h);
-                signs |= heap == null ? 0 : heap.signAt(lie) << 4 * h;
+                signs |= heap == null ? 0 : heap.signAt(lie) << (4 * h);
             }
             return signs;
         }
@@ -1524,11 +1528,14 @@ public final class OneTurned {
                 next++;
                 return true;
             }
-            if (first != '-' && first != '(' || open >= MOST_OPEN) {
+            if ((first != '-' && first != '(') || open >= MOST_OPEN) {
                 return false;
             }
             next++;
-            return first == '-' ? readNegative(open + 1) : readJoined(ORS, open + 1) && readToken(')');
+            if (first == '-') {
+                return readNegative(open + 1);
+            }
+            return readJoined(ORS, open + 1) && readToken(')');
         }
 
         private boolean readNegative(int open) {

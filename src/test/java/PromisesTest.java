@@ -256,7 +256,7 @@ public final class PromisesTest {
             "turns ( @) ;", "turns ( 1 ) @) ;", "turns @or 1 ;", "turns 1 or @or 1 ;",
             "turns 1 and @;", "turns 1 * @* 2 ;", "turns @* 2 ;", "turns @+ 2 ;", "turns @< 2 ;", "turns @= 2 ;",
             "turns 1 @card ;", "turns 1 @2 ;", "turns 1234 @5 ;", "turns @cards ;", "turns @car ;", "turns @Card ;",
-            "turns card@A ;", "turns @turn ;", "@turnsx 1 ;", "turns @notcard ;", "turns @\t1 ;", "turns 1 @/ 2 ;", "turns 1 @\r;",
+            "turns card@A ;", "turns @turn ;", "turns @cardz ;", "turns @z ;", "turns @acard ;", "turns 1 + @manya * 2 ;", "@turnsx 1 ;", "turns @notcard ;", "turns @\t1 ;", "turns 1 @/ 2 ;", "turns 1 @\r;",
             "turns @\u0000 ;", "turns @\u00ff ;", "turns @` ;", "turns @{ ;", "turns @: ;", "turns @, ;", "turns @> ;", "turns @' ;",
             "turns 1 @( 2 ) ;", "turns 1 @not 2 ;", "turns card @card ;", "turns 1 - @;", "turns ( 1 ) @1 ;",
             "turns 1 ; swaps ( ( 2 ) @; looks 3 ;", "turns 1 ; swaps 2 @looks 3 ;", "turns 1 ; swaps 2 ; looks 3 @) ;",
