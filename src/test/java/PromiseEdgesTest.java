@@ -56,6 +56,7 @@ public final class PromiseEdgesTest {
         refused("BAD: n", "BAD", "table(0, 4)", "table(13, 4)", "table(-1, 4)", "table(MIN, 4)", "table(MAX, 4)");
         refused("BAD: width", "BAD", "table(9, 0)", "table(9, 13)", "table(9, -1)", "table(9, MIN)", "table(9, MAX)");
         refused("BAD: both", "BAD", "table(0, 0)", "table(13, 13)", "table(0, 13)", "table(13, 0)");
+        refused("BAD: the other one would do", "BAD", "table(8, 0)", "table(12, 13)", "table(1, -1)", "table(0, 3)", "table(13, 12)", "table(-1, 1)");
         for (int n : new int[] {1, 12}) {
             for (int width : new int[] {1, 12}) {
                 check("the least and the most are taken", "rich\n table(" + n + ", " + width + ") = 9 | count(0) = " + n + " | count(1) = " + width);
@@ -129,6 +130,9 @@ public final class PromiseEdgesTest {
         check("FULL, of an empty TAPE", six, "text() ! FULL | count(6) = 0");
         check("FULL, ahead of the FAULT", six, "tape \"turns !\"\ntext() ! FULL | count(6) = 7 | text() ! FULL | count(6) = 7");
         check("a FAULT takes no number", "tape \"x\"\ntext() = -100\n".repeat(8), six, "count(4) = 6");
+        String longest = "tape \"turns 1" + "+1".repeat(70) + "!\"\ntext() = -247\n";
+        check("a FAULT leaves nothing behind", longest.repeat(5), "tape \"turns 1" + "+1".repeat(68) + ";swaps 2;looks 3;\"\ntext() = 1 | force(1) | asks(0, 0) = 69 | asks(1, 0) = 2 | asks(2, 0) = 3");
+        check("nor does a TEXT", ("tape \"turns 1" + "+1".repeat(68) + ";swaps 2;looks 3;\"\ntext()\n").repeat(5), "force(5) | asks(0, 0) = 69 | asks(1, 0) = 2 | asks(2, 0) = 3 | force(1) | asks(0, 0) = 69 | asks(2, 0) = 3");
 
         promise = 8;
         refused("BAD", "BAD", "force(-1)", "force(2)", "force(6)", "force(MIN)", "force(MAX)");
@@ -215,6 +219,7 @@ public final class PromiseEdgesTest {
         check("k 0: the empty set", "rich\n counts(0) ? 1 | table(1, 1) | heap(0, 1, 0) | counts(0) ? 1");
         check("k 12, of twelve", "table(12, 1) | counts(12) ? 1 | counts(6) ? 924 | counts(11) ? 12 | heap(0, 1, 0) | counts(12) ? 0 | counts(11) ? 1");
         check("k above how many CARDS there are", "counts(9) ? 1 | counts(10) ? 0 | counts(12) ? 0 | table(1, 1) | counts(1) ? 1 | counts(2) ? 0");
+        check("a BACK, if turned, weighs no more", "table(3, 3) | heap(4, 7, 9) | counts(3) ? 0 | turn(4) | counts(3) ? 1 | counts(2) ? 0 | counts(1) ? 0");
 
         promise = 18;
         refused("BAD", "BAD", "unseen(-1)", "unseen(2)", "unseen(MIN)", "unseen(MAX)");
@@ -229,6 +234,7 @@ public final class PromiseEdgesTest {
         refused("BAD", "BAD", "apart(-1)", "apart(2)", "apart(MIN)", "apart(MAX)");
         check("of one CARD", "table(1, 1) | apart(0) ? 1 | apart(1) ? -1");
         check("all alike", "table(12, 1) | apart(0) ? 1 | apart(1) ? 1");
+        check("SIGNS of now are none of them, if each CARD changes these", "table(2, 2) | heap(0, 3, 0) | apart(0) ? 1 | apart(1) ? 1 | turn(1) | apart(0) ? 1 | apart(1) ? 1");
         check("all unlike", "table(12, 1) | heap(2, 0, 0) | heap(2, 0, 1) | heap(2, 0, 2) | heap(2, 0, 3) | apart(0) ? 12 | apart(1) ? -1 | turn(4095) | apart(0) ? 12 | apart(1) ? -1");
         check("the last two", "table(12, 1) | heap(4, 1023, 9) | apart(0) ? 11 | apart(1) ? 1011");
         check("the first and the last", "table(12, 1) | heap(4, 4095, 9) | apart(0) ? 11 | apart(1) ? 11");
@@ -238,6 +244,7 @@ public final class PromiseEdgesTest {
         check("k 0: those of now", "rich\n reach(0) ? 1 | table(1, 1) | reach(0) ? 1");
         check("k above how many CARDS there are", "table(1, 1) | heap(0, 1, 0) | reach(0) ? 1 | reach(1) ? 2 | reach(2) ? 2 | reach(3) ? 2");
         check("no HEAPS", "reach(0) ? 1 | reach(3) ? 1");
+        check("BACKS are turned, too", "table(1, 1) | heap(0, 1, 0) | turn(1) | reach(0) ? 1 | reach(1) ? 2 | reach(3) ? 2");
         check("no more than k", "table(3, 3) | heap(0, 1, 0) | heap(0, 2, 0) | heap(0, 4, 0) | reach(0) ? 1 | reach(1) ? 4 | reach(2) ? 7 | reach(3) ? 8");
         check("as many as can be", "table(12, 12)\nheap(4, 1026, 8) | heap(4, 5, 9) | heap(4, 24, 9) | heap(4, 96, 9) | heap(4, 384, 9) | heap(4, 2560, 7)",
             "reach(0) ? 1 | reach(1) ? 13 | reach(2) ? 79 | reach(3) ? 299");
@@ -308,6 +315,7 @@ public final class PromiseEdgesTest {
         check("none is UNLIKE", "table(12, 1) | heap(0, 1, 0) | swaps(0) ? 0 | swaps(1) ? 0 | swaps(2) ? 0 | turn(4095) | swaps(0) ? 0 | swaps(1) ? 0 | swaps(2) ? 0");
         check("each is UNLIKE", "table(12, 1) | turn(1365) | swaps(0) ? 2047 | swaps(1) ? 0 | swaps(2) ? 2047 | heap(5, 0, 0) | swaps(0) ? 0 | swaps(1) ? 2047 | swaps(2) ? 2047");
         check("SIGNS may stay, and ALL not HOLD", "heap(0, 1, 0) | turn(17) | swaps(0) ? 0b11000 | swaps(1) ? 1 | swaps(2) ? 1");
+        check("a BACK comes ahead, or behind", "table(2, 1) | heap(0, 2, 0) | turn(2) | swaps(0) ? 0 | swaps(1) ? 1 | swaps(2) ? 1 | turn(3) | swaps(0) ? 0 | swaps(1) ? 1 | swaps(2) ? 0");
 
         promise = 28;
         refused("-5: no such ROW", "-5", "swept(-1, 0)", "swept(3, 0)", "swept(MIN, 0)", "swept(MAX, 0)");

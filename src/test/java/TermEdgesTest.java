@@ -390,6 +390,9 @@ public final class TermEdgesTest {
         check("WAYS 21 and c, swaps of c, not of the next one", "table(12, 4) | heap(0, 1, 0) | turn(1)\ntape \"turns 0;swaps 5+card;looks 0;\"\ntext() | force(1) | likely(1) = 5");
         check("WAYS, of weight above 0", "table(2, 2) | heap(0, 1, 0) | turn(1)\ntape \"turns 0-1;swaps 0;looks 0;\"\ntext() | force(1) | likely(0) = NONE | likely(1) = 0 | likely(2) = 0 | right(0) = NO");
         check("WAYS, which, undone, leave ALL HOLDING", "table(3, 3) | heap(0, 1, 0) | heap(0, 4, 0) | turn(5)", "likely(0) = NONE | likely(2) = 0 | turn(4) | likely(0) = 1 | likely(2) = 15");
+        check("WAYS, turns as all lies now, not as in thought", "heap(0, 1, 0) | heap(0, 1, 0) | turn(1)\ntape \"turns fails*10+back;swaps 0;looks 0;\"\ntext() | force(1) | likely(0) = 1 | likely(1) = 21 | likely(2) = 21");
+        check("WAYS, swaps as all lies now, not as in thought", "heap(0, 1, 0) | heap(0, 1, 0) | turn(1)\ntape \"turns 0;swaps fails*10+back;looks 0;\"\ntext() | force(1) | likely(0) = 21 | likely(1) = 21 | likely(2) = 21");
+        check("looks as all lies now, not as in thought", "heap(0, 1, 0) | heap(0, 1, 0) | turn(1)\ntape \"turns 0;swaps 0;looks fails*10+back;\"\ntext() | force(1) | cheapest(0) = 0 | cheapest(1) = 21");
         check("WAYS, of all weights the most", "table(12, 4) | turn(1365)\ntape \"turns 99;swaps 99;looks 0;\"\ntext() | force(1) | likely(0) = 0 | likely(2) = 2377");
     }
 
