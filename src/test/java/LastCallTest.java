@@ -46,10 +46,14 @@ public final class LastCallTest {
     }
 
     private static void asked() {
-        Script.Call[] calls = {call("count", 0), call("asks", 2, 11), call("told", 6, 4), call("signs", 0), call("look", 4095), call("one"), call("two", 0), call("counts", 6),
-            call("unseen", 1), call("apart", 0), call("reach", 3), call("lay", 4095, 1), call("needs", 9999), call("can", 99999), call("reads"), call("coin", 0), call("swaps", 1),
-            call("swept", 0, 0), call("cuts", 1), call("moves", 0), call("likely", 2), call("right", 1), call("cheapest", 1), call("lies"), call("idle"), call("judge", 0), call("match", 0, 3),
-            call("tells", 0, 4095, 1), call("evening", 99999, 1), call("odds", 99999, 50, 0), call("taken", 18, 4)};
+        Script.Call[] calls = {
+            call("count", 0), call("asks", 2, 11), call("told", 6, 4), call("signs", 0), call("look", 4095), call("one"),
+            call("two", 0), call("counts", 6), call("unseen", 1), call("apart", 0), call("reach", 3), call("lay", 4095, 1),
+            call("needs", 9999), call("can", 99999), call("reads"), call("coin", 0), call("swaps", 1), call("swept", 0, 0),
+            call("cuts", 1), call("moves", 0), call("likely", 2), call("right", 1), call("cheapest", 1), call("lies"),
+            call("idle"), call("judge", 0), call("match", 0, 3), call("tells", 0, 4095, 1), call("evening", 99999, 1),
+            call("odds", 99999, 50, 0), call("taken", 18, 4),
+        };
         for (Script.Call each : calls) {
             OneTurned x = new OneTurned();
             for (Script.Call before : most()) {
@@ -61,9 +65,13 @@ public final class LastCallTest {
     }
 
     private static void refused() {
-        Object[][] calls = {{call("table", 13, 1), -2}, {call("turn", 4096), -2}, {call("swap", 0, 0), -5}, {call("feed", 6, 0, 0, 0, 0, 0), -2}, {call("text"), -100}, {call("force", 1), -2},
-            {call("heap", 0, 0, 0), -4}, {call("back"), -3}, {call("even", 4096), -2}, {call("cut", 12), -2}, {call("move", 0, 12), -5}, {call("film", 4), -2}, {call("sheet", 0, 2, -1), -14},
-            {call("cell", 1, 0, 0), -11}, {call("copy", 0, 0, 1, 0, 1), -11}, {call("heapsBy", 0, 1, 0, 1), -13}};
+        Object[][] calls = {
+            {call("table", 13, 1), -2}, {call("turn", 4096), -2}, {call("swap", 0, 0), -5}, {call("feed", 6, 0, 0, 0, 0, 0), -2},
+            {call("text"), -100}, {call("force", 1), -2}, {call("heap", 0, 0, 0), -4}, {call("back"), -3},
+            {call("even", 4096), -2}, {call("cut", 12), -2}, {call("move", 0, 12), -5}, {call("film", 4), -2},
+            {call("sheet", 0, 2, -1), -14}, {call("cell", 1, 0, 0), -11}, {call("copy", 0, 0, 1, 0, 1), -11},
+            {call("heapsBy", 0, 1, 0, 1), -13},
+        };
         for (Object[] each : calls) {
             upToTheLast(most(), List.of((Script.Call) each[0]), n -> (Integer) each[1]);
         }
@@ -106,16 +114,21 @@ public final class LastCallTest {
     private static void heapsAndImages() {
         upToTheLast(List.of(), List.of(call("heap", 5, 4095, 9), call("drop")), n -> 0);
         upToTheLast(List.of(), List.of(call("heap", 4, 4095, 9)), n -> n < 7 ? n : -4);
-        upToTheLast(List.of(call("turn", 5), call("image")), List.of(call("heap", 4, 4095, 9), call("turn", 1), call("back")), n -> n % 3 == 0 ? 0 : n % 3 == 1 ? 4 : 5);
+        upToTheLast(List.of(call("turn", 5), call("image")), List.of(call("heap", 4, 4095, 9), call("turn", 1), call("back")),
+            n -> n % 3 == 0 ? 0 : n % 3 == 1 ? 4 : 5);
         upToTheLast(List.of(), List.of(call("image")), n -> 0);
-        upToTheLast(List.of(call("sheet", 0, 0, 21), call("image")), List.of(call("heapsBy", 0, 0, 0, 7), call("count", 3), call("back")), n -> n % 3 == 2 ? 0 : 7);
+        upToTheLast(List.of(call("sheet", 0, 0, 21), call("image")),
+            List.of(call("heapsBy", 0, 0, 0, 7), call("count", 3), call("back")), n -> n % 3 == 2 ? 0 : 7);
     }
 
     private static void sheets() {
         for (int sort = 0; sort < 3; sort++) {
-            upToTheLast(List.of(), List.of(call("sheet", 0, sort, 40), call("cell", 0, 39, 7), call("sheet", 1, sort, 40), call("copy", 0, 0, 1, 0, 40)), n -> n % 4 == 3 ? 40 : 1);
+            List<Script.Call> again = List.of(call("sheet", 0, sort, 40), call("cell", 0, 39, 7), call("sheet", 1, sort, 40),
+                call("copy", 0, 0, 1, 0, 40));
+            upToTheLast(List.of(), again, n -> n % 4 == 3 ? 40 : 1);
         }
         upToTheLast(most(), List.of(call("film", 1), call("judge", 1)), n -> n % 2 == 0 ? 7 : -1);
-        upToTheLast(List.of(), List.of(call("sheet", 3, 2, 40), call("sheet", 3, -1, 0), call("cell", 3, 0, 0)), n -> n % 3 == 2 ? -11 : 1);
+        upToTheLast(List.of(), List.of(call("sheet", 3, 2, 40), call("sheet", 3, -1, 0), call("cell", 3, 0, 0)),
+            n -> n % 3 == 2 ? -11 : 1);
     }
 }
