@@ -491,6 +491,7 @@ public final class PromiseEdgesTest {
         check("no HEAPS", "idle() ? 0");
         check("one HEAP: if its SIGN never changes", "heap(0, 0, 0) | idle() ? 1 | drop() | heap(0, 1, 0) | idle() ? 0 | drop()",
             "heap(4, 2, 0) | idle() ? 1 | drop() | heap(4, 2, 1) | idle() ? 0");
+        check("whatever set: that by which all show their faces", "table(1, 1) | heap(0, 1, 0) | turn(1) | idle() ? 0");
         check("seven alike", "table(12, 1)\n" + "heap(0, 4095, 0)\n".repeat(7), "idle() ? 127");
         check("seven unlike", "table(7, 1)\n heap(0, 1, 0) | heap(0, 2, 0) | heap(0, 4, 0) | heap(0, 8, 0) | heap(0, 16, 0)",
             "heap(0, 32, 0) | heap(0, 64, 0) | idle() ? 0");

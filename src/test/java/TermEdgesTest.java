@@ -407,6 +407,8 @@ public final class TermEdgesTest {
             "asks(1, 11) = 0 | asks(2, 11) = 11");
         check("NAMES, back: 1, if it shows its BACK, else 0", "tape \"turns back;swaps many;looks fails;\"\ntext() | force(1)",
             "asks(0, 8) = 0 | turn(256) | asks(0, 8) = 1 | asks(0, 7) = 0 | turn(256) | asks(0, 8) = 0");
+        check("NAMES, back: else 0, no less", "tape \"turns 5+back;swaps 1;looks 1;\"\ntext() | force(1)",
+            "asks(0, 8) = 5 | turn(256) | asks(0, 8) = 6");
         check("NAMES, many: 1 .. 12", "tape \"turns back;swaps many;looks fails;\"\ntext() | force(1)",
             "asks(1, 0) = 9 | table(1, 1) | asks(1, 0) = 1 | table(12, 1) | asks(1, 0) = 12");
         check("NAMES, fails: none .. all seven, now", "tape \"turns back;swaps many;looks fails;\"\ntext() | force(1)",
