@@ -25,8 +25,9 @@ import java.util.regex.Pattern;
 final class Script {
     /** A call of the face, to be made on any object. */
     record Call(String name, int... arguments) {
-        long on(OneTurned x) {
-            Method method = FACE.get(name);
+        /** Makes it on an object, or on the model of one. */
+        long on(Object x) {
+            Method method = FACES.computeIfAbsent(x.getClass(), Script::face).get(name);
             if (method == null || method.getParameterCount() != arguments.length) {
                 throw new IllegalArgumentException("no such call: " + this);
             }
@@ -83,7 +84,7 @@ final class Script {
         count(3) = 7 | count(4) = 6 | count(6) = 160
         """.formatted(" ".repeat(134));
 
-    private static final Map<String, Method> FACE = face();
+    private static final Map<Class<?>, Map<String, Method>> FACES = new HashMap<>();
     private static final Map<String, Long> NAMED = Map.of("NONE", -1L, "BAD", -2L, "STATE", -3L, "FULL", -4L,
         "NO", -4611686018427387904L, "MIN", (long) Integer.MIN_VALUE, "MAX", (long) Integer.MAX_VALUE);
     private static final Pattern STEP = Pattern.compile("(\\w+)\\(([^)]*)\\)(?:\\s*([=!?])\\s*(\\S*))?");
@@ -103,6 +104,13 @@ final class Script {
         }
     }
 
+    /** The calls of a run, once they have answered as is due. */
+    static List<Call> calls(String sentence, String calls) {
+        Script script = new Script(sentence);
+        script.run(calls);
+        return List.copyOf(script.made);
+    }
+
     /** Texts that are texts. */
     static void fine(String sentence, String... texts) {
         for (String text : texts) {
@@ -118,9 +126,9 @@ final class Script {
         }
     }
 
-    private static Map<String, Method> face() {
+    private static Map<String, Method> face(Class<?> type) {
         Map<String, Method> face = new HashMap<>();
-        for (Method method : OneTurned.class.getDeclaredMethods()) {
+        for (Method method : type.getDeclaredMethods()) {
             if (Modifier.isPublic(method.getModifiers())) {
                 face.put(method.getName(), method);
             }
